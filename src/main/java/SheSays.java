@@ -89,7 +89,10 @@ public final class SheSays {
             return takeBook();
         }
         if (sort == 1 && lawCount < laws.length && lawReader.read() == NONE) {
-            return takeLaw();
+            tape.size = 0;
+            laws[lawCount].put(lawReader);
+            lawCount++;
+            return lawCount - 1;
         }
         return NONE;
     }
@@ -101,16 +104,6 @@ public final class SheSays {
         leaps.plan();
         notes.clear();
         return play.size;
-    }
-
-    private int takeLaw() {
-        if (lawCount < 0 || lawCount >= laws.length) {
-            return NONE;
-        }
-        tape.size = 0;
-        laws[lawCount].put(lawReader);
-        lawCount++;
-        return lawCount - 1;
     }
 
     private Law heldLaw() {
@@ -475,11 +468,10 @@ public final class SheSays {
             return sign >= '0' && sign <= '9';
         }
 
-        /** NONE, with the place at the wrong byte: there is no digit, or one too many. */
+        /** Of the digits from here on. NONE, with the place at the wrong byte: there is none, or one too many. */
         int number(int mostDigits) {
             int value = 0;
             int digits = 0;
-            sign();
             while (digits < mostDigits && isDigit(here())) {
                 value = value * 10 + here() - '0';
                 digits++;
@@ -587,6 +579,7 @@ public final class SheSays {
         }
 
         private boolean readCut() {
+            tape.sign();
             int first = tape.number(DIGITS);
             if (first == NONE) {
                 return false;
@@ -597,6 +590,7 @@ public final class SheSays {
             if (!tape.takes('-')) {
                 return false;
             }
+            tape.sign();
             int last = tape.number(DIGITS);
             if (last == NONE) {
                 return false;
@@ -706,13 +700,23 @@ public final class SheSays {
         }
 
         private boolean readUnit(int depth, boolean sumIsRead) {
-            if (sumIsRead) {
-                return readComparison(depth);
-            }
             int sign = tape.sign();
-            if (sign != '!' && sign != '(') {
-                return readSum(depth) && readComparison(depth);
+            if (!sumIsRead && (sign == '!' || sign == '(')) {
+                return readNested(depth, sign);
             }
+            if (!sumIsRead && !readSum(depth) || !atComparison()) {
+                return false;
+            }
+            int comparison = tape.here();
+            tape.at++;
+            if (!readSum(depth)) {
+                return false;
+            }
+            write(comparison);
+            return true;
+        }
+
+        private boolean readNested(int depth, int sign) {
             if (depth >= DEEPEST) {
                 return false;
             }
@@ -724,19 +728,6 @@ public final class SheSays {
                 return false;
             }
             write('!');
-            return true;
-        }
-
-        private boolean readComparison(int depth) {
-            if (!atComparison()) {
-                return false;
-            }
-            int sign = tape.here();
-            tape.at++;
-            if (!readSum(depth)) {
-                return false;
-            }
-            write(sign);
             return true;
         }
 
