@@ -224,6 +224,10 @@ public final class PromisesTest {
         book("Ax,By,Cz,Dd;0-0,0-0", 16);
         book("Ax,By,Cz,Dd;1-1,0-0", 16);
         book("Ax,By,Cz,Dd; 1 - 1 , 3 - 3 ", -1);
+        book("Ax,By,Cz,Dd;2-3", -1);
+        book("Ax,By,Cz,Dd;3-4", 14);
+        book("Ax,By,Cz,Dd;3-12", 15);
+        book("Ax,By,Cz,Dd;0-0,2-2,3-3", 22);
         book("Ax,By,Cz,Dd;1-1 3", 16);
         StringBuilder many = new StringBuilder("Ax");
         for (int i = 1; i < 24; i++) {
@@ -421,6 +425,12 @@ public final class PromisesTest {
         worthIs("y:s<3?9;y:5", 3, 5);
         worthIs("y:s>3?9;y:5", 3, 5);
         worthIs("y:1+s=2*2?9;y:5", 3, 9);
+        StringBuilder full = new StringBuilder("y:l");
+        while (full.length() < 159) {
+            full.append("+0");
+        }
+        worthIs(full.append(' ').toString(), 1, 40);
+        worthIs("y:[[[[[[1+1]*2+1]*2+1]*2+1]*2+1]*2+1]-1", 0, 94);
         SheSays x = of("Ax,By", "y:m=1?60;y:20");
         due("FORGETS not MARKED", x.speech(0, 7), 20);
         x.mark(0, true);
@@ -574,12 +584,34 @@ public final class PromisesTest {
             due("said", x.latest(0), saved ? 2 : 1);
             due("LOST", x.latest(1), saved ? 3 : 2);
         }
+        nightAtTheBounds();
         x = of("Ax,Bx,Ax,Bx", "y:s=1?100;y:0");
         x.set(1, 0, 1);
         due("night with a LEAP", x.night(4), 0);
         due("its LEAPS", x.latest(4), 1);
         due("its said", x.latest(0), 2);
         due("its SECONDS", x.latest(3), 10);
+    }
+
+    /** A draw that is just FORGETS or TAKE is not below it. */
+    private static void nightAtTheBounds() {
+        for (int seed = 0; seed < 20; seed++) {
+            int[] d = draws(seed, 2);
+            SheSays x = of("Ax,By", "y:s=1?0;y:" + d[0]);
+            x.night(seed);
+            due("LOST by a draw that is FORGETS", x.latest(1), 0);
+            take(x, 1, "y:s=1?0;y:" + (d[0] + 1));
+            x.law(1);
+            x.night(seed);
+            due("LOST by a draw below FORGETS", x.latest(1), 1);
+            x.mark(0, true);
+            x.set(0, 1, d[1]);
+            x.night(seed);
+            due("SAVED by a draw that is TAKE", x.latest(2), 0);
+            x.set(0, 1, d[1] + 1);
+            x.night(seed);
+            due("SAVED by a draw below TAKE", x.latest(2), 1);
+        }
     }
 
     private static void tooMany() {

@@ -792,8 +792,8 @@ public final class SheSays {
 
     /** A LAW as LawReader writes it down, worked off on a stack. */
     private static final class Law {
-        /** Each byte of a tape gives one sign at most; the last clause needs one more for its end. */
-        static final int MOST_CODE = MOST_BYTES + 1;
+        /** Each byte of a tape gives one sign at most; y gives none, and leaves room for the end of its clause. */
+        static final int MOST_CODE = MOST_BYTES;
         /** What is added to numbers, to tell them from signs. */
         static final int NUMBER = 1000;
         private static final int MOST_VALUE = 1000000;
