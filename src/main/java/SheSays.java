@@ -944,13 +944,17 @@ public final class SheSays {
             return size > 0 && speeches >= 0 && speeches >> size == 0;
         }
 
-        boolean hasActor(int name) {
+        /** The ACTORS with a SPEECH, as bits. */
+        private int actors() {
+            int found = 0;
             for (int i = 0; i < size; i++) {
-                if (actor[i] == name) {
-                    return true;
-                }
+                found |= 1 << actor[i];
             }
-            return false;
+            return found;
+        }
+
+        boolean hasActor(int name) {
+            return name >= 0 && name < MOST_ACTORS && (actors() >> name & 1) != 0;
         }
 
         boolean alike(int i, int j) {
@@ -1041,10 +1045,7 @@ public final class SheSays {
         }
 
         void findSharers(int near) {
-            int all = 0;
-            for (int i = 0; i < size; i++) {
-                all |= 1 << actor[i];
-            }
+            int all = actors();
             for (int a = 0; a < MOST_ACTORS; a++) {
                 sharers[a] = (all >> a & 1) == 0 ? 0 : all & ~(1 << a);
             }
@@ -1060,10 +1061,7 @@ public final class SheSays {
 
         /** Of all ACTORS with a SPEECH, after findSharers: sets are worked off from the smaller to the larger. */
         int fewestPlayers() {
-            int all = 0;
-            for (int i = 0; i < size; i++) {
-                all |= 1 << actor[i];
-            }
+            int all = actors();
             needed[0] = 0;
             for (int set = 1; set < needed.length && set <= all; set++) {
                 if ((set & ~all) != 0) {
