@@ -450,7 +450,7 @@ public final class SheSays {
 
         /** The next byte that is no blank. */
         int sign() {
-            while (at >= 0 && at < size && bytes[at] == ' ') {
+            while (at < size && here() == ' ') {
                 at++;
             }
             return here();
@@ -509,7 +509,9 @@ public final class SheSays {
         int read() {
             tape.at = 0;
             speeches = 0;
-            Arrays.fill(isCut, false);
+            for (int i = 0; i < isCut.length; i++) {
+                isCut[i] = false;
+            }
             if (!readSpeeches()) {
                 return tape.at;
             }
@@ -1473,9 +1475,11 @@ public final class SheSays {
             int all = Math.min(Integer.bitCount(could), MOST_COULD);
             for (int howMany = 0; howMany <= all; howMany++) {
                 for (int choice = 0; choice < 1 << all; choice++) {
-                    int marks = spread(choice, could);
-                    if (Integer.bitCount(choice) == howMany && reaches(parts, most, markedAnyway | marks)) {
-                        return marks;
+                    if (Integer.bitCount(choice) == howMany) {
+                        int marks = spread(choice, could);
+                        if (reaches(parts, most, markedAnyway | marks)) {
+                            return marks;
+                        }
                     }
                 }
             }
