@@ -115,6 +115,10 @@ public final class FaceTest {
             imports.add(matcher.group(1));
         }
         holds("the imports", imports.equals(List.of("java.util.Arrays", "java.util.NoSuchElementException")));
+        matcher = Pattern.compile("boolean\\[\\] (\\w+)").matcher(bare);
+        while (matcher.find()) {
+            holds("Arrays works over numbers alone", !bare.matches("(?s).*Arrays\\.\\w+\\(" + matcher.group(1) + "\\b.*"));
+        }
         matcher = Pattern.compile("throw new (\\w+)").matcher(bare);
         while (matcher.find()) {
             holds("throws alone what is told", matcher.group(1).equals("NoSuchElementException"));

@@ -179,6 +179,7 @@ public final class OddsBoundsTest {
         Desk.due("chance of FORGETS 0", Desk.of(FULL, "").chance(24), PARTS);
         Desk.due("chance of FORGETS 100", Desk.of(FULL, "y:100").chance(200), 0);
         Desk.due("chance with one fewer", Desk.of(FULL, "").chance(23), 0);
+        Desk.due("chance of FORGETS 0 with LEAPS", ofKind(2, FULL).chance(24), PARTS);
         x = Desk.of("Ax,By", "y:100");
         x.mark(0, true);
         x.mark(1, true);
@@ -251,15 +252,15 @@ public final class OddsBoundsTest {
         Desk.due("chance(200)", x.chance(200), 690000000);
         Desk.due("chance(3)", x.chance(3), 225000000);
         Desk.sentence("T3 parts that come to one SPEECH with as many said, in whatever way, are added up ahead of that");
-        // 2 of 1,000,000,000 parts say 2 each way, with two said: at 3 half of 2 is LOST, apart it would be none
+        // 1 LEAPS to 2, so that 3 is come to with two said and with three said: that is not added up
         x = Desk.of("Ax,Bx,Bx,Cx,Dx", "y:s=1?50;y:s=3?50");
         x.set(1, 0, 1);
-        Desk.due("visits(2, 2)", x.visits(2, 2), 500000000);
-        Desk.due("visits(2, 3)", x.visits(2, 3), PARTS);
+        Desk.due("visits(3, 3)", x.visits(3, 3), 250000000);
+        Desk.due("visits(3, 4)", x.visits(3, 4), 500000000);
         addedUp();
     }
 
-    /** C's 3 and 5 LEAP back to 2 and on to 6: whole numbers of parts that differ, if they are cut one by one. */
+    /** 4 is come to from 3, which was said, and by the LEAPS of 1 and 5: cut one by one, other parts would be LOST. */
     private static void addedUp() {
         SheSays x = Desk.of("Ax,Bx,Cx,Bx,Cx,Bx", "y:s=0?0;y:s=5?99;y:99");
         x.set(1, 0, 3);
@@ -312,6 +313,19 @@ public final class OddsBoundsTest {
             Desk.due("mean(" + s + ", 200) of too many", x.mean(s, 200), 0);
         }
         Desk.due("mean of all", Desk.of("Ax,By", "y:100").mean(0, 1), PARTS);
+        Desk.sentence("T3 MEAN: all parts, as often as the SPEECH is come to");
+        // 3 LEAPS back to 1 each time: 2 is come to with 2, 4, .. said by all that did not STOP there
+        x = Desk.of("Ax,Bx,Cx,Bx", "y:s=2?50;y:s=3?100");
+        x.set(1, 0, 2);
+        long stopped = 0;
+        long under = PARTS;
+        for (int most = 1; most <= 200; most++) {
+            if (most % 2 == 1 && most > 1) {
+                stopped += under / 2;
+                under -= under / 2;
+            }
+            Desk.due("mean(2, " + most + ")", x.mean(2, most), stopped);
+        }
     }
 
     private static void could() {
@@ -455,6 +469,8 @@ public final class OddsBoundsTest {
         understudyIs(x, 3, 0, 900000000);
         understudyIs(Desk.of("Ax,Cx,Hx;0-0", "y:a=0?0;y:10"), 2, 2, 900000000);
         understudyIs(Desk.of("Gx,Hx", "y:a=7?10"), 2, 7, PARTS);
+        understudyIs(Desk.of("Cx,Bx", ""), 1, 1, 0);
+        understudyIs(Desk.of(FULL, "y:a=7?10"), 24, 7, PARTS);
         Desk.sentence("T3 makes CHANCE greatest (of several the lowest)");
         understudyIs(Desk.of("Cx,Bx,Bx,Cx", "y:10"), 4, 1, 810000000);
         understudyIs(Desk.of("Hx,Bx", ""), 2, 1, PARTS);
@@ -618,6 +634,8 @@ public final class OddsBoundsTest {
         Desk.due("players(1, 0) of no BOOK", new SheSays().players(1, 0), -1);
         Desk.due("players(24, -1) of one ACTOR", Desk.of("Cx,Cx", "").players(24, -1), 1);
         Desk.due("players(1, 2) of one ACTOR", Desk.of("Cx,Cx", "").players(1, 2), 0);
+        Desk.due("players(24, -1) of A alone", Desk.of("Ax,Ax", "").players(24, -1), 1);
+        Desk.due("players(1, -1) of H alone", Desk.of("Hx,Hx", "").players(1, -1), 1);
         Desk.sentence("T4 the fewest PLAYERS for all: each two of one player can be played by one");
         // A, B, C in a row again and again: two of them are never further than 1 or 2
         x = Desk.of("Ax,Bx,Cx,Ax,Bx,Cx", "");

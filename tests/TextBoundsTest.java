@@ -270,9 +270,11 @@ public final class TextBoundsTest {
         bookFault("Ax,By,Cz,Dd,Ee;5-5", 15);
         bookFault("Ax,By,Cz,Dd,Ee;05-5", 16);
         bookFault("Ax,By,Cz,Dd,Ee;99-99", 16);
+        bookFault("Ax,By,Cz,Dd,Ee;4-6", 17);
         bookFault("Ax,By,Cz,Dd,Ee;4-99", 18);
         isBook(Desk.book(24, "Ax") + ";23-23");
         bookFault(Desk.book(24, "Ax") + ";23-24", 76);
+        bookFault(Desk.book(24, "Ax") + ";23-44", 76);
         bookFault(Desk.book(24, "Ax") + ";24-24", 73);
         Desk.sentence("T1 the first greater than the second one of the CUT ahead");
         isBook("Ax,By,Cz,Dd,Ee,Ff;0-1,2-3");
@@ -610,6 +612,14 @@ public final class TextBoundsTest {
         is("!(1=2&1=2)");
         is("!!!!!!1=1");
         isNot("!!!!!1=1");
+        is("l=5&l<6");
+        is("l<6&l>4");
+        is("l>4&l=5");
+        is("!l=4&l=5");
+        is("!l=4&l<6");
+        is("(l=5)&!l<5");
+        isNot("l=5&l<5");
+        isNot("!l=5&l<6");
         Desk.sentence("T1 TERMS with + or - between, ATOMS with * or / between, [ SUM ]");
         is("2+3*4=14");
         is("[2+3]*4=20");
@@ -637,6 +647,15 @@ public final class TextBoundsTest {
         forgets("y:s=1?9", 0, 0);
         forgets("y:s=1?9", 1, 9);
         forgets("y:s=1?9;y:s=2?9;y:1=2?9", 0, 0);
+        Desk.sentence("T1 a shorter LAW has nothing of a longer one told ahead of it");
+        SheSays two = Desk.of("Ax,By", "y:1=2?3;y:1=2?4;y:1=2?5;y:6;y:7;y:8");
+        two.law(Desk.take(two, 1, "y:1=2?9"));
+        Desk.due("FORGETS by the shorter one", two.speech(0, 7), 0);
+        Desk.feed(two, "y:s=0?2");
+        two.fault(1);
+        Desk.due("FORGETS behind a FAULT that was asked", two.speech(0, 7), 0);
+        two.law(0);
+        Desk.due("FORGETS by the longer one", two.speech(0, 7), 6);
         Desk.sentence("T2 FORGETS held within 0 .. 100");
         forgets("y:0", 0, 0);
         forgets("y:0-1", 0, 0);
@@ -649,6 +668,8 @@ public final class TextBoundsTest {
         Desk.sentence("T2 none at first: 0");
         SheSays x = Desk.of("Ax,By", "");
         Desk.due("FORGETS without a LAW", x.speech(0, 7), 0);
+        x.mark(1, true);
+        Desk.due("FORGETS without a LAW, MARKED", x.speech(1, 7), 0);
         Desk.take(x, 1, "y:50");
         Desk.due("FORGETS with a LAW that does not hold", x.speech(0, 7), 0);
     }
